@@ -64,6 +64,10 @@ public final class PromisesTest {
         due("count(2)", x.count(2), 279);
         due("the last one", x.feed(0x73, 0, 0, 0, 0), 280);
         due("it came last", x.fault(0), NONE);
+        x.end(270);
+        due("eleven in all five", x.feed(0x20202000, 0x20200000, 0x20202000, 0x20000000, 0x20200000), NONE);
+        due("eleven in the third and the fourth", x.feed(0x20, 0x20, 0x20202020, 0x20202020, 0x20), NONE);
+        due("ten", x.feed(0x20, 0x20, 0x20202020, 0x20202000, 0x20), 280);
         x.end(0);
         due("bytes above 127", x.feed(0xFF80C8FF, 0, 0, 0, 0), 4);
         due("are no shelf", x.fault(0), 0);
@@ -130,6 +134,10 @@ public final class PromisesTest {
         due("all defaults", Check.take(x, 0, "v"), 24);
         due("the tape is empty", x.count(2), 0);
         due("v is address 0, value 1", x.read(0), 1);
+        due("items of one v are not those of the next", Check.take(x, 0, "va5x9;v;va2;vx0a9"), 24);
+        due("read(5)", x.read(5), 9);
+        due("read(0)", x.read(0), 1);
+        due("read(2)", x.read(2), 1);
         due("the largest", Check.take(x, 0, "sd6t12c4"), 288);
         due("the smallest", Check.take(x, 0, "sd2t1c1"), 2);
         due("v ahead of s, later v's last, one left out", Check.take(x, 0, "va5x9;va1x200;" + SMALL + ";va6x3;va5x7"), 6);
@@ -142,6 +150,7 @@ public final class PromisesTest {
         x.write(9, 0);
         for (int i = 0; i < 4; i++) {
             due("script " + i, Check.take(x, 1, "y"), i);
+            due("the tape is empty", x.count(2), 0);
         }
         due("a fifth one", Check.take(x, 1, "y"), NONE);
         due("the tape stays", x.count(2), 1);
@@ -418,6 +427,7 @@ public final class PromisesTest {
         z.lose(4);
         due("its own and P gone", z.write(0, 9), 5);
         due("Q alone is written", z.cell(0, 0, 0), 9 ^ 6 ^ 4);
+        due("the others alone are read", z.most(0) * 10 + z.most(1), 21);
         due("read(0)", z.read(0), 9);
     }
 
@@ -526,6 +536,20 @@ public final class PromisesTest {
         x.spoil(4, 0, 0, 1);
         x.spoil(2, 0, 0, 7);
         due("a stripe that is there of a disk being rebuilt", x.scrub(2), 1);
+        mendedAmongOthers();
+    }
+
+    private void mendedAmongOthers() {
+        StripeShelf x = Check.shelf("sd3t1c2;va1x7;va3x9;va5x200");
+        // Q: 4 times 200 is 800 ^ 570 ^ 285.
+        int[] wanted = {7 ^ 18 ^ 800 ^ 570 ^ 285, 7, 9, 200, 7 ^ 9 ^ 200};
+        for (int d = 0; d < 5; d++) {
+            due("cell(" + d + ", 0, 1)", x.cell(d, 0, 1), wanted[d]);
+            x.spoil(d, 0, 1, 240 + d);
+            due("mended", x.scrub(1), 1);
+            due("cell(" + d + ", 0, 1)", x.cell(d, 0, 1), wanted[d]);
+            due("the latest", x.most(8) * 100 + x.most(9) * 10 + x.most(10), d * 100 + 1);
+        }
     }
 
     private void p21() {
@@ -572,13 +596,19 @@ public final class PromisesTest {
         x.lose(2);
         due("another part is gone: it can be", x.tear(0, 3, 1), 2);
         due("its own is gone", x.tear(1, 3, 1), NONE);
+        due("its own is gone, PART 2", x.tear(5, 3, 1), NONE);
         x.replace(2);
         x.rebuild(2, 2);
         x.lose(4);
         due("P is gone", x.tear(0, 3, 1), NONE);
         due("Q is gone", x.tear(3, 3, 1), NONE);
+        x.lose(1);
+        due("its own is gone, PART 0", x.tear(0, 3, 1), NONE);
         due("dirty stays", x.most(6), 3);
-        statuses(x, 1, 4, 3, 0);
+        statuses(x, 1, 4, 5, 0);
+        StripeShelf y = Check.shelf(SMALL);
+        y.lose(1);
+        due("PART 0 alone is gone", y.tear(0, 3, 1), NONE);
     }
 
     private void p23() {
@@ -634,6 +664,8 @@ public final class PromisesTest {
         due("n 0", x.years(0, 1), NONE);
         due("n 41", x.years(41, 1), NONE);
         due("n -1", x.years(-1, 1), NONE);
+        due("n 1", x.years(1, 2), x.most(0) + x.most(1));
+        due("one act", x.count(3), 1);
         for (long seed : new long[] {0, 1, -1, Long.MAX_VALUE, Long.MIN_VALUE, 5, 99, 12345}) {
             yearsByHand(seed);
         }
@@ -716,6 +748,8 @@ public final class PromisesTest {
         due("40 of them", x.count(4), 40);
         for (int i = 39; i >= 0; i--) {
             due("undo", x.undo(), i);
+            due("the one that stays", x.read((i + 4) % 6), i + 4);
+            due("cost", x.most(0) + x.most(1), 5 * (i + 5));
         }
         due("none", x.undo(), NONE);
         due("five stay", x.count(3), 5);
@@ -762,15 +796,15 @@ public final class PromisesTest {
     }
 
     private void p28() {
-        StripeShelf x = Check.shelf(FILLED);
+        StripeShelf x = Check.shelf("sd6t12c4");
         due("empty", x.log(0, 0), HIDDEN);
         for (int i = 0; i < 100; i++) {
-            x.spoil(i % 5, 0, 0, 1);
+            x.write(i, 1);
         }
         due("60 of them", x.count(3), 60);
-        due("the latest", x.log(0, 1), 4);
-        due("the one ahead", x.log(1, 1), 3);
-        due("the last told", x.log(59, 1), 0);
+        due("the latest", x.log(0, 1), 99);
+        due("the one ahead", x.log(1, 1), 98);
+        due("the last told", x.log(59, 1), 40);
         due("no such one", x.log(60, 1), HIDDEN);
         due("no such one", x.log(-1, 1), HIDDEN);
         due("no such what", x.log(0, 3), HIDDEN);
@@ -779,17 +813,23 @@ public final class PromisesTest {
             x.undo();
         }
         due("still 60", x.count(3), 60);
-        // 62 are left, the latest of them 61, modulo 5.
-        due("the latest", x.log(0, 1), 1);
+        due("the latest", x.log(0, 1), 61);
         due("the last told", x.log(59, 1), 2);
         x.undo();
         x.undo();
         due("60 in all", x.count(3), 60);
+        due("the latest", x.log(0, 1), 59);
         due("the first of all", x.log(59, 1), 0);
-        x.write(0, 1);
-        x.write(6, 1);
-        due("a write", x.log(0, 0) * 100 + x.log(0, 1) * 10 + x.log(0, 2), 5);
+        x.lose(7);
+        x.lose(8);
+        due("a loss", x.log(0, 0) * 100 + x.log(0, 1) * 10 + x.log(0, 2), 170);
         due("log(59, 1)", x.log(59, 1), 1);
+        for (int i = 0; i < 50; i++) {
+            x.write(200 + i, 1);
+        }
+        for (int i = 0; i < 60; i++) {
+            due("log(" + i + ", 1)", x.log(i, 1), i < 50 ? 249 - i : i == 50 ? 7 : 59 - (i - 51));
+        }
     }
 
     private void p29() {
@@ -798,6 +838,12 @@ public final class PromisesTest {
         costs(Check.shelf("sd2t1c1"), 1, 1, 3, 1);
         costs(Check.shelf("sd4t1c1"), 1, 3, 3, 0);
         costs(Check.shelf("sd6t1c1"), 1, 3, 3, 0);
+        StripeShelf two = Check.shelf("sd2t1c1");
+        two.lose(3);
+        costs(two, 1, 1, 2, 1);
+        two.lose(1);
+        costs(two, 0, 1, 1, 1);
+        costs(two, 1, 2, 2, 0);
         x.lose(4);
         costs(x, 0, 2, 2, 0);
         x.lose(0);
@@ -862,6 +908,10 @@ public final class PromisesTest {
         x.spoil(4, 0, 0, 1);
         x.spoil(0, 0, 0, 128);
         due("open", x.who(0, 0), -2);
+        x.spoil(0, 0, 0, 128 ^ 8);
+        due("2 to the power DATA: open", x.who(0, 0), -2);
+        x.spoil(0, 0, 0, 8 ^ 4);
+        due("2 to the power DATA less 1: the last part", x.who(0, 0), 3);
         due("another stripe", x.who(1, 0), NONE);
         due("nothing was mended", x.most(2), 0);
         due("stripe 2", x.who(2, 0), HIDDEN);
@@ -911,6 +961,13 @@ public final class PromisesTest {
         x.rebuild(1, 4);
         x.rebuild(3, 4);
         due("as it comes", x.most(0) - reads, promised);
+        StripeShelf y = Check.shelf("sd3t2c1k3");
+        y.lose(0);
+        y.lose(4);
+        y.replace(4);
+        due("the last one, the first one lost", y.left(0) * 100 + y.left(1), 206);
+        y.replace(0);
+        due("the first one, too", y.left(0) * 100 + y.left(1), 414);
     }
 
     private void p34() {
@@ -919,6 +976,9 @@ public final class PromisesTest {
         due("all", x.fit(), 15);
         x.spoil(0, 2, 1, 5);
         due("all but one", x.fit(), 11);
+        x.spoil(0, 1, 0, 5);
+        due("all but two", x.fit(), 9);
+        x.spoil(0, 1, 0, 5);
         x.tear(0, 0, 0);
         due("dirty, but right", x.fit(), 11);
         x.lose(4);
@@ -988,6 +1048,12 @@ public final class PromisesTest {
         x.rebuild(3, 2);
         x.lose(4);
         due("at the end", x.span(0) * 100 + x.span(1), 412);
+        due("no such what", x.span(2), NONE);
+        due("no such what", x.span(-1), NONE);
+        StripeShelf y = Check.shelf(SMALL);
+        y.lose(1);
+        y.lose(2);
+        due("at the beginning", y.span(0) * 100 + y.span(1), 200);
     }
 
     private void p38() {
@@ -1102,6 +1168,9 @@ public final class PromisesTest {
         due("no such what", x.run(0, -1), HIDDEN);
         x.lose(4);
         due("from as it is now", x.run(0, 0), 1);
+        Check.take(x, 1, "p1,0,0,255;f0,0,255,255;p1,0,0,0");
+        due("numbers of four", x.run(3, 0), 2);
+        due("its cost", x.run(3, 1), 4);
     }
 
     private void p43() {
@@ -1122,6 +1191,11 @@ public final class PromisesTest {
         due("no such script", x.perform(-1), NONE);
         Check.take(x, 1, "s1");
         due("all of it", x.perform(1), 1);
+        Check.take(x, 0, SMALL);
+        Check.take(x, 1, "p2,1,0,33;f0,0,6,250;z3,7,2");
+        due("numbers of four", x.perform(2), 3);
+        cells(x, 0, 6 ^ 0 ^ 1000 ^ 570 ^ 285, 6, 0, 250, 6 ^ 250);
+        cells(x, 1, 7, 0, 33, 7, 0);
     }
 
     private void p44() {
