@@ -110,7 +110,10 @@ public final class StripeShelf {
     }
 
     private int takeScript() {
-        if (scriptCount >= MOST_SCRIPTS || tape.scriptFault() != NONE) {
+        if (scriptCount < 0 || scriptCount >= scripts.length || scripts[scriptCount] == null) {
+            return NONE;
+        }
+        if (tape.scriptFault() != NONE) {
             return NONE;
         }
         scripts[scriptCount].copy(tape.script());
@@ -386,7 +389,7 @@ public final class StripeShelf {
     }
 
     private boolean isScript(int script) {
-        return script >= 0 && script < scriptCount && script < scripts.length;
+        return script >= 0 && script < scriptCount && script < scripts.length && scripts[script] != null;
     }
 
     // ---- the whole

@@ -164,6 +164,11 @@ public final class PromisesTest {
         due("no undo", x.undo(), NONE);
         due("all whole", x.most(7), 0);
         due("all is 0", x.read(5), 0);
+        Check.take(x, 0, FILLED);
+        x.spoil(4, 1, 0, 9);
+        Check.take(x, 0, SMALL);
+        cells(x, 0, 0, 0, 0, 0, 0);
+        cells(x, 1, 0, 0, 0, 0, 0);
         due("a fault leaves the shelf", Check.take(x, 0, "s;"), NONE);
         due("as it was", x.count(0), 6);
     }
