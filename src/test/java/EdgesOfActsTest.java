@@ -249,6 +249,8 @@ public final class EdgesOfActsTest extends Edges {
         edge("2: HOW 1: the BYTE", lines(FILLED, "tear 0 9 1 -> 1", cells(0, 7, 9, 3, 1, 7), "most 0 -> 3", "most 1 -> 1", "disk 1 3 -> 1", "most 6 -> 1"));
         edge("2: HOW 2: the BYTE and P", lines(FILLED, "tear 0 9 2 -> 1", cells(0, 7, 9, 3, 1, 7 ^ 12), "most 0 -> 3", "most 1 -> 2", "disk 4 3 -> 1", "disk 0 3 -> 0", "disk 0 2 -> 1", "disk 1 2 -> 1",
             "disk 4 2 -> 1"));
+        edge("2: HOW 1 and 2: another PART, the last PART", lines(FILLED, "tear 1 9 1 -> 1", cells(0, 7, 5, 9, 1, 7), "log 0 2 -> 4", "tear 2 8 2 -> 1", cells(0, 7, 5, 9, 8, 7 ^ 9), "log 0 2 -> 5",
+            "disk 2 3 -> 1", "disk 3 3 -> 1", "disk 4 3 -> 1"));
         edge("2: P is more by what it changes, wrong as it was", lines(FILLED, "spoil 4 0 0 64", "tear 0 9 2 -> 1", cells(0, 7, 9, 3, 1, 71 ^ 12)));
         edge("22: how many STRIPES are DIRTY", "shelf 'sd2t3c2' -> 12", "tear 0 1 0 -> 1", "tear 3 1 0 -> 1", "tear 4 1 0 -> 2", "tear 11 1 0 -> 3", "most 6 -> 7", "tear 0 1 0 -> 3");
         edge("22: the last STRIPE of twelve", "shelf 'sd6t12c4' -> 288", "tear 287 9 1 -> 1", "most 6 -> 2048", "clean -> 1", "most 6 -> 0");

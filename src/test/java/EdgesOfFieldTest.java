@@ -13,6 +13,22 @@ public final class EdgesOfFieldTest extends Edges {
             "replace 0 -> 0", "rule 4 -> 0", "undo", "rule 4 -> 1");
     }
 
+    /** SHELVES of all RULES as they begin, and each again behind one that was not WHOLE. */
+    private void promise6OfAllRules() {
+        for (int data = 2; data <= 6; data++) {
+            for (int stripes = 1; stripes <= 12; stripes++) {
+                for (int chunk = 1; chunk <= 4; chunk++) {
+                    String shelf = "shelf 'sd" + data + "t" + stripes + "c" + chunk + "' -> " + data * stripes * chunk;
+                    int n = data + 2;
+                    String[] begins = lines(row("rule", data, stripes, chunk, 0, 1, n, data * stripes * chunk), "most 7 -> 0", "most 6 -> 0", "more -> " + ((1 << n) - 1), "left 0 -> 0", "left 1 -> 0",
+                        "fit -> " + ((1 << stripes) - 1), "span 0 -> 0", "span 1 -> NONE", "risk -> " + n * (n - 1) / 2, "first 0 -> NONE", "read " + (data * stripes * chunk - 1) + " -> 0",
+                        "read " + data * stripes * chunk + " -> throws", "cell " + (n - 1) + " " + (stripes - 1) + " " + (chunk - 1) + " -> 0", "disk " + (n - 1) + " 1 -> " + stripes);
+                    edge("6: " + shelf, lines(shelf, begins, "write 0 255", "spoil 0 0 0 3", "tear 1 9 1", "lose 0", "lose " + (n - 1), "replace 0", shelf, begins));
+                }
+            }
+        }
+    }
+
     /** As polynomials over bits: the long way. */
     private static int product(int polynomial, int a, int b) {
         int sum = 0;
@@ -143,6 +159,7 @@ public final class EdgesOfFieldTest extends Edges {
     public static void main(String[] args) {
         EdgesOfFieldTest test = new EdgesOfFieldTest();
         test.promise6();
+        test.promise6OfAllRules();
         test.promises7And8();
         test.promises9And10();
         test.promise11();

@@ -18,6 +18,15 @@ public final class EdgesOfPastTest extends Edges {
         return all.toArray(NO_LINES);
     }
 
+    /** Each with what is READ then: the VALUE ahead, which was one less. */
+    private static String[] undoAndRead(int many, int value) {
+        String[] all = {};
+        for (int i = 0; i < many; i++) {
+            all = lines(all, "undo -> " + (many - 1 - i), "read 0 -> " + (value - i), "most 1 -> " + 3 * (value - i + 1), "log 0 2 -> 5");
+        }
+        return all;
+    }
+
     // ---- YEARS
 
     private void promise25() {
@@ -101,6 +110,7 @@ public final class EdgesOfPastTest extends Edges {
         edge("27: 39, 40, 41 of them", lines(FILLED, times(39, "write 0 #"), "count 4 -> 39", "write 0 39", "count 4 -> 40", "write 0 40", "count 4 -> 40"));
         edge("27: the latest 40 ACTS, not the one ahead", lines(FILLED, times(41, "write 0 #"), "read 0 -> 40", undoAll(40), "undo -> NONE !", "read 0 -> 0", "count 3 -> 1", "most 1 -> 3"));
         edge("27: all 40 of 40", lines(FILLED, times(40, "write 0 #"), undoAll(40), "undo -> NONE !", "read 0 -> 5", "count 3 -> 0", "most 1 -> 0"));
+        edge("27: all 40, each as it was", lines(FILLED, times(75, "write 0 #"), undoAndRead(40, 73)));
         edge("27: one by one", lines(FILLED, "write 0 1", "write 1 2", "write 2 4", "undo -> 2", "read 2 -> 1", "read 1 -> 2", "undo -> 1", "read 1 -> 3", "read 0 -> 1", "undo -> 0", "read 0 -> 5"));
         edge("27: UNDONE, then others", lines(FILLED, times(40, "write 0 #"), times(10, "undo"), "count 4 -> 30", "read 0 -> 29", times(5, "write 1 #"), "count 4 -> 35", undoAll(35), "read 0 -> 5", "read 1 -> 3",
             "undo -> NONE !"));

@@ -150,6 +150,7 @@ public final class EdgesOfQuestionsTest extends Edges {
         edge("38: of four, of eight DISKS", "shelf 'sd2' -> 16", "risk -> 6", "shelf 'sd6' -> 48", "risk -> 28");
         edge("38: one LOST, two LOST", FILLED, "lose 0", "risk -> 0", "lose 4", "risk -> 0");
         edge("38: one being REBUILT: with each other one", FILLED, "lose 0", "replace 0", "risk -> 4", "rebuild 0 1", "risk -> 4", "rebuild 0 1", "risk -> 10");
+        edge("38: the last one being REBUILT: with each other one", FILLED, "lose 4", "replace 4", "risk -> 4", "undo", "undo", "lose 2", "replace 2", "risk -> 4");
         edge("38: one LOST, one being REBUILT", FILLED, "lose 0", "lose 4", "replace 4", "risk -> 0");
         edge("38: both being REBUILT", FILLED, "lose 0", "lose 4", "replace 4", "replace 0", "risk -> 1");
     }
@@ -191,6 +192,7 @@ public final class EdgesOfQuestionsTest extends Edges {
             "script 'w0,1;w5,0' -> 2", "run 2 0 -> NONE", "run 2 1 -> 10");
         edge("42: the 16th can't be", FILLED, "script 's1;s1;s1;s1;s1;s1;s1;s1;s1;s1;s1;s1;s1;s1;s1;y' -> 0", "run 0 0 -> 15", "run 0 1 -> 75");
         edge("42: all 16 can be", FILLED, "script 's1;s1;s1;s1;s1;s1;s1;s1;s1;s1;s1;s1;s1;s1;s1;s1' -> 0", "run 0 0 -> NONE", "run 0 1 -> 80");
+        edge("42: reads and writes of those ahead, not of what was WRITTEN ever", FILLED, "write 0 9", "scrub 2", "script 'w0,1;w6,0' -> 0", "run 0 1 -> 5", "run 0 0 -> 1");
         edge("42: a STEP by those ahead of it", FILLED, "script 'l1;n1;r1,1;r1,1;r1,1' -> 0", "run 0 0 -> 4", "run 0 1 -> 10", "script 'l1;l2;l3' -> 1", "run 1 0 -> 2", "script 'z0,9,1;y;y' -> 2", "run 2 0 -> 2",
             "run 2 1 -> 9");
         edge("42: from as it is now", FILLED, "script 'l1;n1' -> 0", "run 0 0 -> NONE", "lose 1", "run 0 0 -> 0", "undo", "run 0 0 -> NONE", "lose 3", "lose 4", "run 0 0 -> 0");
@@ -234,7 +236,18 @@ public final class EdgesOfQuestionsTest extends Edges {
         edge("44: the latest BYTE MENDED: the last of all", "shelf 'sd6t12c4' -> 288", "spoil 7 11 3 1", "scrub 12 -> 1", "most 8 -> 7", "most 9 -> 11", "most 10 -> 3", "undo", "most 8 -> NONE", "most 9 -> NONE");
         edge("44: bits of the first and the last DISK", "shelf 'sd6' -> 48", "lose 7", "most 7 -> 128", "lose 0", "most 7 -> 129", "replace 0", "most 7 -> 129", "rebuild 0 4", "most 7 -> 128");
         edge("44: bits of the first and the last STRIPE", "shelf 'sd2t12c1' -> 24", "tear 23 0 0", "most 6 -> 2048", "tear 0 0 0", "most 6 -> 2049");
+        edge("44: each is counted by itself", lines("shelf 'sd6t2c1k9' -> 12", mendedOften(), "most 2 -> 36", "spoil 7 0 0 1", "spoil 0 0 0 128", "scrub 12 -> 0", "most 3 -> 6", "tear 6 9 1 -> 1",
+            "scrub 12 -> 0", "scrub 1 -> 0", row("most", 36 * 16 + 96 + 3 + 48 + 8, 37, 36, 13, 6, 1, 2, 0, 7, 0, 0), "disk 0 4 -> 1", "disk 3 4 -> 4", "disk 7 4 -> 8", "rule 4 -> 9"));
         edge("44: ever: of DISKS that are LOST, too", FILLED, "write 0 9", "lose 1", "lose 2", "most 0 -> 2", "most 1 -> 3");
+    }
+
+    /** DISK 0 once, DISK 1 twice .. DISK 7 eight times. */
+    private static String[] mendedOften() {
+        String[] all = {};
+        for (int disk = 0; disk < 8; disk++) {
+            all = lines(all, times(disk + 1, "spoil " + disk + " 0 0 77", "scrub 2 -> 1", "most 8 -> " + disk));
+        }
+        return all;
     }
 
     private void promise47() {

@@ -5,6 +5,9 @@ import java.util.function.IntSupplier;
 /** Long runs of drawn calls, right and wrong ones, on a StripeShelf and on the Model: all answers are alike. */
 public final class TwinTest {
     private static final int[] FAR = {Integer.MIN_VALUE, Integer.MAX_VALUE, -1000000, -2, 1000, 65536, Integer.MIN_VALUE + 1};
+    /** No object is used for more than 512 calls; the survey at the end of a run takes some 110. */
+    private static final int MOST_CALLS = 512;
+    private static final int MOST_DRAWN = 380;
     private final Check check = new Check();
     private final Random random;
     private StripeShelf real = new StripeShelf();
@@ -143,19 +146,19 @@ public final class TwinTest {
     // ---- calls
 
     private int address() {
-        return near(real.count(0) - 1);
+        return near(model.count(0) - 1);
     }
 
     private int disk() {
-        return near(real.rule(5) - 1);
+        return near(model.rule(5) - 1);
     }
 
     private int stripe() {
-        return near(real.rule(1) - 1);
+        return near(model.rule(1) - 1);
     }
 
     private int at() {
-        return near(real.rule(2) - 1);
+        return near(model.rule(2) - 1);
     }
 
     private void one(String name, int a, java.util.function.IntUnaryOperator got, java.util.function.IntUnaryOperator want) {
@@ -232,7 +235,7 @@ public final class TwinTest {
     }
 
     private void votes(int a) {
-        int v = pick(4) == 0 || answer(() -> real.read(a)) < 0 ? near(255) : real.read(a);
+        int v = pick(4) == 0 || answer(() -> model.read(a)) < 0 ? near(255) : model.read(a);
         two("votes", a, v, real::votes, model::votes);
     }
 
@@ -246,14 +249,14 @@ public final class TwinTest {
             case 5: same("risk()", real::risk, model::risk); break;
             case 6: one("first", near(2), real::first, model::first); break;
             case 7: step(); break;
-            case 8: case 9: two("run", near(real.count(1) - 1), near(1), real::run, model::run); break;
-            case 10: one("perform", near(real.count(1) - 1), real::perform, model::perform); break;
+            case 8: case 9: two("run", near(model.count(1) - 1), near(1), real::run, model::run); break;
+            case 10: one("perform", near(model.count(1) - 1), real::perform, model::perform); break;
             default: rare(); break;
         }
     }
 
     private void step() {
-        int s = near(real.count(1) - 1);
+        int s = near(model.count(1) - 1);
         int i = near(4);
         int what = near(4);
         same("step(" + s + ", " + i + ", " + what + ")", () -> real.step(s, i, what), () -> model.step(s, i, what));
@@ -275,12 +278,12 @@ public final class TwinTest {
         for (int what = 0; what <= 10; what++) {
             one("most", what, real::most, model::most);
         }
-        for (int d = 0; d < real.rule(5); d++) {
+        for (int d = 0; d < model.rule(5); d++) {
             for (int what = 0; what <= 4; what++) {
                 two("disk", d, what, real::disk, model::disk);
             }
         }
-        for (int a = 0; a < Math.min(60, real.count(0)); a++) {
+        for (int a = 0; a < Math.min(60, model.count(0)); a++) {
             one("read", a, real::read, model::read);
         }
     }
@@ -301,16 +304,17 @@ public final class TwinTest {
             takeText(1, pick(4) == 0 ? broken(scriptText()) : scriptText());
         }
         boolean undoing = pick(3) == 0;
-        while (calls < 400) {
+        while (calls < MOST_DRAWN) {
             anyCall();
             if (undoing && pick(120) == 0) {
-                for (int i = pick(45); i > 0 && calls < 400; i--) {
+                for (int i = pick(45); i > 0 && calls < MOST_DRAWN; i--) {
                     same("undo()", real::undo, model::undo);
                     question();
                 }
             }
         }
         survey();
+        check.due("at most 512 calls of one object", calls <= MOST_CALLS, true);
     }
 
     private void anyCall() {
@@ -329,11 +333,15 @@ public final class TwinTest {
     }
 
     private void texts() {
-        real = new StripeShelf();
-        model = new Model();
         for (int i = 0; i < 100; i++) {
+            if (i % 25 == 0) {
+                real = new StripeShelf();
+                model = new Model();
+                calls = 0;
+            }
             story.setLength(0);
             feedText(broken(pick(2) == 0 ? shelfText() : scriptText()));
+            check.due("at most 512 calls of one object", calls <= MOST_CALLS, true);
         }
     }
 
