@@ -55,6 +55,10 @@ public final class EdgesOfTextsTest extends Edges {
         edge("3: False: n", "tape 'sd6'", "end 4 -> false !", "end -1 -> false !", "end 280 -> false !", "end MAX -> false !", "end MIN -> false !");
         edge("3: of an empty TAPE", "end 0 -> true", "end 1 -> false !", "end -1 -> false !");
         edge("3: bytes cut off do not come again", "tape 'sd6'", "end 1 -> true", "end 3 -> false !", "text 0 -> 24");
+        edge("3: blanks cut off are no blanks any more", "tape 'sd  2'", "end 2 -> true", "fault 0 -> 2", "tape 's;  v'", "end 2 -> true", "fault 0 -> 2", "tape 'w1  ,2'", "end 2 -> true", "fault 1 -> 2",
+            "tape '    '", "end 1 -> true", "fault 0 -> 1", "fault 1 -> 1", "end 0 -> true", "fault 0 -> 0", "fault 1 -> 0");
+        edge("3: digits cut off are no digits any more", "tape 'sd2222'", "end 3 -> true", "fault 0 -> NONE", "tape 'l1234'", "end 4 -> true", "fault 1 -> NONE", "end 1 -> true", "fault 1 -> 1", "tape 'st12'", "end 3 -> true",
+            "text 0 -> 6", "rule 1 -> 1");
         edge("3: of a full TAPE", lines(times(14, TWENTY), "end 281 -> false !", "end 280 -> true", "end 279 -> true", "count 2 -> 279"));
     }
 
