@@ -888,7 +888,6 @@ public final class StripeShelf {
             }
             return sum;
         }
-
     }
 
     /** All that ACTS change but the LOG, in one row, so that one copy keeps it or brings it back. */
