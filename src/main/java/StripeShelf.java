@@ -493,7 +493,7 @@ public final class StripeShelf {
         void append(int word) {
             for (int shift = 24; shift >= 0; shift -= 8) {
                 int sign = word >>> shift & 255;
-                if (sign != 0 && size < ROOM) {
+                if (sign != 0 && size >= 0 && size < ROOM) {
                     signs[size] = sign;
                     size++;
                 }
@@ -552,7 +552,7 @@ public final class StripeShelf {
                 at++;
                 return readItems(0, LAST_RULE);
             }
-            if (sign() != 'v' || byteCount >= MOST_BYTES) {
+            if (sign() != 'v' || byteCount < 0 || byteCount >= MOST_BYTES) {
                 return wrong(at);
             }
             at++;
@@ -567,7 +567,7 @@ public final class StripeShelf {
         }
 
         private void useDefaults(int first, int last) {
-            for (int i = first; i <= last && i < ITEMS; i++) {
+            for (int i = Math.max(first, 0); i <= last && i < ITEMS; i++) {
                 items[i] = WITHOUT[i];
             }
         }
@@ -581,7 +581,7 @@ public final class StripeShelf {
                     return true;
                 }
                 int item = ITEM_LETTERS.indexOf((char) sign());
-                if (item < first || item > last || item >= ITEMS || (seen >> item & 1) != 0) {
+                if (item < 0 || item < first || item > last || item >= ITEMS || (seen >> item & 1) != 0) {
                     return wrong(at);
                 }
                 seen |= 1 << item;
@@ -707,7 +707,7 @@ public final class StripeShelf {
         }
 
         void add(int sort) {
-            if (size < MOST_STEPS) {
+            if (size >= 0 && size < MOST_STEPS) {
                 sorts[size] = sort;
                 size++;
             }
